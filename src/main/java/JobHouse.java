@@ -569,7 +569,7 @@ public final class JobHouse {
 
         /** 1 is Sunday. */
         static int weekdayOf(int day) {
-            return Math.floorMod(day + 4, 7) + 1;
+            return (day + 4) % 7 + 1;
         }
     }
 
@@ -626,12 +626,11 @@ public final class JobHouse {
         private int save;
         private final YearRule beginning = new YearRule();
         private final YearRule ending = new YearRule();
-        private long since = BEHIND_ALL;
+        private long since;
         private long until = BEFORE_ALL;
         private int offset;
 
         void readFrom(Text text) {
-            since = BEHIND_ALL;
             until = BEFORE_ALL;
             save = 0;
             boolean west = text.take('-');
@@ -727,8 +726,8 @@ public final class JobHouse {
         private static final int YEAR = 6;
         private static final int YEAR_WORDS = 6;
 
-        private static final int DAYS = 0;
-        private static final int WEEKDAYS = 1;
+        private static final int BY_DAYS = 0;
+        private static final int BY_WEEKDAYS = 1;
         private static final int LAST_BUT = 2;
         private static final int LAST_WORKDAY = 3;
         private static final int NEAREST_WORKDAY = 4;
@@ -763,7 +762,7 @@ public final class JobHouse {
             for (int i = 0; i < YEAR + YEAR_WORDS; i++) {
                 sets[i] = 0;
             }
-            dayRule = DAYS;
+            dayRule = BY_DAYS;
         }
 
         void add(int field, int number) {
@@ -787,8 +786,8 @@ public final class JobHouse {
         /** The days of a month of that length whose first day is that weekday, as bits 1 to 31. */
         long daysOf(int length, int firstWeekday) {
             switch (dayRule) {
-                case DAYS: return sets[DAY] & bitsUpTo(length);
-                case WEEKDAYS: return weekdaysFrom(firstWeekday) & bitsUpTo(length);
+                case BY_DAYS: return sets[DAY] & bitsUpTo(length);
+                case BY_WEEKDAYS: return weekdaysFrom(firstWeekday) & bitsUpTo(length);
                 case LAST_BUT: return bitOf(length - n, length);
                 case LAST_WORKDAY: return workdayNearest(length, length, firstWeekday);
                 case NEAREST_WORKDAY: return workdayNearest(value, length, firstWeekday);
@@ -843,7 +842,6 @@ public final class JobHouse {
             if (minute < 0) {
                 hour = lowestBit(sets[HOUR], time / 3600 + 1);
                 minute = lowestBit(sets[MINUTE], 0);
-                second = lowestBit(sets[SECOND], 0);
             }
             return hour < 0 ? NONE : hour * 3600 + minute * 60 + second;
         }
@@ -861,7 +859,6 @@ public final class JobHouse {
             if (minute < 0) {
                 hour = highestBit(sets[HOUR], time / 3600 - 1);
                 minute = highestBit(sets[MINUTE], 59);
-                second = highestBit(sets[SECOND], 59);
             }
             return hour < 0 ? NONE : hour * 3600 + minute * 60 + second;
         }
@@ -1076,7 +1073,7 @@ public final class JobHouse {
         }
 
         boolean isDone() {
-            return broken != NONE || at >= length;
+            return peek() == NONE;
         }
 
         int peek() {
@@ -1099,8 +1096,8 @@ public final class JobHouse {
 
         void requireBlanks() {
             require(BLANK);
-            while (at < length && take(BLANK)) {
-                continue;
+            while (at < length && bytes[at] == BLANK) {
+                at++;
             }
         }
 
@@ -1110,7 +1107,7 @@ public final class JobHouse {
             }
         }
 
-        /** A number without a 0 in front; low if the text is broken there. */
+        /** A number; a 0 in front is one by itself, and no digit can follow any number. */
         int number(int low, int high) {
             int begin = at;
             int number = 0;
@@ -1121,33 +1118,21 @@ public final class JobHouse {
             }
             if (at == begin || number < low || number > high) {
                 breakAt(begin);
-            } else if (zero && isDigit(peek())) {
-                breakAt(at);
             }
             return broken == NONE ? number : low;
         }
 
         /** Which of the names, of three letters each, stands here; it is taken then. */
         int takeName(String names) {
-            for (int i = 0; i + 3 <= names.length(); i += 3) {
-                if (standsHere(names, i)) {
+            boolean enough = broken == NONE && at + 3 <= length;
+            for (int i = 0; enough && i + 3 <= names.length(); i += 3) {
+                if (bytes[at] == names.charAt(i) && bytes[at + 1] == names.charAt(i + 1)
+                        && bytes[at + 2] == names.charAt(i + 2)) {
                     at += 3;
                     return i / 3;
                 }
             }
             return NONE;
-        }
-
-        private boolean standsHere(String names, int from) {
-            if (broken != NONE || at + 3 > length) {
-                return false;
-            }
-            for (int i = 0; i < 3; i++) {
-                if (bytes[at + i] != names.charAt(from + i)) {
-                    return false;
-                }
-            }
-            return true;
         }
 
         private static boolean isDigit(int b) {
@@ -1157,8 +1142,8 @@ public final class JobHouse {
 
     /** Reads a cron expression; the text knows afterwards whether and where it is broken. */
     private static final class CronReader {
-        private static final String MONTHS = "JANFEBMARAPRMAYJUNJULAUGSEPOCTNOVDEC";
-        private static final String WEEKDAYS = "SUNMONTUEWEDTHUFRISAT";
+        private static final String MONTH_NAMES = "JANFEBMARAPRMAYJUNJULAUGSEPOCTNOVDEC";
+        private static final String WEEKDAY_NAMES = "SUNMONTUEWEDTHUFRISAT";
 
         static void readCron(Text text, Cron cron) {
             cron.clear();
@@ -1184,7 +1169,7 @@ public final class JobHouse {
 
         private static void readDay(Text text, Cron cron) {
             if (text.take('?')) {
-                cron.dayRule = Cron.WEEKDAYS;
+                cron.dayRule = Cron.BY_WEEKDAYS;
             } else if (!text.take('L')) {
                 readItems(text, cron, Cron.DAY);
             } else if (text.take('W')) {
@@ -1196,7 +1181,7 @@ public final class JobHouse {
         }
 
         private static void readWeekday(Text text, Cron cron) {
-            if (cron.dayRule != Cron.WEEKDAYS) {
+            if (cron.dayRule != Cron.BY_WEEKDAYS) {
                 text.require('?');
             } else if (text.take('L')) {
                 cron.add(Cron.WEEKDAY, 7);
@@ -1231,8 +1216,12 @@ public final class JobHouse {
         }
 
         private static int readValue(Text text, int field) {
-            String names = field == Cron.MONTH ? MONTHS : field == Cron.WEEKDAY ? WEEKDAYS : "";
-            int name = text.takeName(names);
+            int name = NONE;
+            if (field == Cron.MONTH) {
+                name = text.takeName(MONTH_NAMES);
+            } else if (field == Cron.WEEKDAY) {
+                name = text.takeName(WEEKDAY_NAMES);
+            }
             int lowest = Cron.lowest(field);
             return name < 0 ? text.number(lowest, Cron.highest(field)) : lowest + name;
         }

@@ -8,6 +8,8 @@ final class FiresTest {
         days();
         fields();
         changesOfTime();
+        atTheVeryChange();
+        timesThatComeAgain();
         edgesOfTime();
         holidays();
         randomOnes();
@@ -42,6 +44,10 @@ final class FiresTest {
         nextIs("0 0 0 LW * ?", "2024-07-01T00:00:00", "2024-07-31T00:00:00");
         nextIs("0 0 0 1W * ?", "2024-05-31T00:00:00", "2024-06-03T00:00:00");
         nextIs("0 0 0 1W * ?", "2024-08-31T00:00:00", "2024-09-02T00:00:00");
+        nextIs("0 0 0 2W * ?", "2024-02-20T00:00:00", "2024-03-01T00:00:00");
+        nextIs("0 0 0 2W * ?", "2024-05-31T00:00:00", "2024-06-03T00:00:00");
+        nextIs("0 0 0 30W * ?", "2023-07-01T00:00:00", "2023-07-31T00:00:00");
+        nextIs("0 0 0 30W * ?", "2024-06-01T00:00:00", "2024-06-28T00:00:00");
         nextIs("0 0 0 15W * ?", "2024-06-01T00:00:00", "2024-06-14T00:00:00");
         nextIs("0 0 0 15W * ?", "2024-09-01T00:00:00", "2024-09-16T00:00:00");
         nextIs("0 0 0 31W 3 ?", "2024-01-01T00:00:00", "2024-03-29T00:00:00");
@@ -106,6 +112,53 @@ final class FiresTest {
         Check.is("none before", house.last(2, 1, -1, autumn + 3598999), -1);
     }
 
+    private static void atTheVeryChange() {
+        JobHouse house = new JobHouse();
+        Check.zone(house, 1, "+60 60 M3.5.0/120 M10.5.0/180");
+        Check.cron(house, 0, "0 0 2 31 3 ?");
+        Check.is("it is 03:00 then", house.next(0, 1, -1, Check.at("2024-03-30T00:00:00")),
+                Check.at("2025-03-31T00:00:00"));
+        Check.is("backwards", house.last(0, 1, -1, Check.at("2024-03-31T01:00:00")),
+                Check.at("2023-03-31T00:00:00"));
+        Check.cron(house, 1, "0 0 3 * * ?");
+        long spring = Check.at("2024-03-31T01:00:00");
+        Check.is("03:00 is at the change", house.next(1, 1, -1, spring - 1), spring);
+        Check.is("backwards", house.last(1, 1, -1, spring), spring);
+        long autumn = Check.at("2024-10-27T01:00:00");
+        Check.is("it is 02:00 then", house.next(1, 1, -1, autumn - 1), autumn + 3600000);
+        Check.is("backwards", house.last(1, 1, -1, autumn + 3599999),
+                Check.at("2024-10-26T01:00:00"));
+        Check.cron(house, 2, "0 0 2 * * ?");
+        Check.is("02:00 is at the change", house.next(2, 1, -1, autumn - 1), autumn);
+        Check.is("and an hour before", house.last(2, 1, -1, autumn - 1), autumn - 3600000);
+    }
+
+    /** The search begins within the hour that comes again, behind the time that is sought. */
+    private static void timesThatComeAgain() {
+        String[] zones = {"+60 60 M3.5.0/120 M10.5.0/180", "-300 60 M3.5.0/120 M10.5.0/180"};
+        String[] crons = {"0 15 2 * * ?", "0 15 2 27 10 ? 2024"};
+        long[] changes = {Check.at("2024-10-27T01:00:00"), Check.at("2024-10-27T07:00:00")};
+        for (int z = 0; z < 2; z++) {
+            for (String cron : crons) {
+                JobHouse house = new JobHouse();
+                Check.zone(house, z, zones[z]);
+                Check.cron(house, 5, cron);
+                long change = changes[z];
+                long quarter = 900000;
+                Check.is("again", house.next(5, z, -1, change - 2 * quarter), change + quarter);
+                Check.is("at first", house.next(5, z, -1, change - 4 * quarter),
+                        change - 3 * quarter);
+                Check.is("before", house.last(5, z, -1, change), change - 3 * quarter);
+                Check.is("behind", house.last(5, z, -1, change + 2 * quarter), change + quarter);
+            }
+            JobHouse house = new JobHouse();
+            Check.zone(house, z, zones[z]);
+            Check.cron(house, 5, "0 45 2 27 10 ? 2024");
+            Check.is("before, though later by the clock on the wall",
+                    house.last(5, z, -1, changes[z] + 900000), changes[z] - 900000);
+        }
+    }
+
     private static void edgesOfTime() {
         JobHouse house = new JobHouse();
         Check.cron(house, 0, "* * * * * ?");
@@ -153,7 +206,10 @@ final class FiresTest {
         for (int i = 0; i < 150; i++) {
             JobHouse house = new JobHouse();
             String zoneText = PlainZone.randomText(random);
-            String cronText = i % 4 == 0 ? nearMidnight(random) : RandomCron.text(random);
+            String cronText = RandomCron.text(random);
+            if (i % 3 == 0) {
+                cronText = nearChanges(random, zoneText);
+            }
             PlainZone zone = new PlainZone(zoneText);
             PlainCron cron = new PlainCron(cronText);
             Check.zone(house, 3, zoneText);
@@ -177,11 +233,16 @@ final class FiresTest {
         }
     }
 
-    /** Fires at the hours where times change, on days where random rules often lie. */
-    private static String nearMidnight(Random random) {
-        String hours = random.nextBoolean() ? "22-2" : "0,23";
-        String day = random.nextBoolean() ? "1,31 1,12 ?" : "? * " + (1 + random.nextInt(7)) + "L";
-        return "0 " + random.nextInt(60) + "/7 " + hours + " " + day;
+    /** Fires at the times of the day at which the zone changes, or near to them. */
+    private static String nearChanges(Random random, String zoneText) {
+        String[] parts = zoneText.split(" +");
+        int minutes = parts.length > 1 ? Integer.parseInt(parts[2 + random.nextInt(2)]
+                .replaceAll(".*/", "")) : 0;
+        int save = parts.length > 1 ? Integer.parseInt(parts[1]) : 0;
+        int[] steps = {0, 0, 1, -1, save, -save, random.nextInt(241) - 120};
+        int time = Math.floorMod(minutes + steps[random.nextInt(steps.length)], 1440);
+        String days = random.nextInt(3) == 0 ? "? * " + (1 + random.nextInt(7)) + "L" : "* * ?";
+        return (random.nextBoolean() ? "0 " : "0,59 ") + time % 60 + " " + time / 60 + " " + days;
     }
 
     private static void ranges() {

@@ -34,6 +34,8 @@ final class HolidayTest {
         Check.is("one goes", house.holiday(1, 0, false), 199);
         Check.is("another comes", house.holiday(1, 2000, true), 200);
         Check.fails("full again", Check.FULL, () -> house.holiday(1, 0, true));
+        Check.is("the last one goes", house.holiday(1, 2000, false), 199);
+        Check.is("and comes again", house.holiday(1, 2000, true), 200);
         Check.is("the others are empty", house.holiday(0, 0, true), 1);
     }
 

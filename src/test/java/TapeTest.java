@@ -4,6 +4,8 @@ final class TapeTest {
         lengths();
         bytesComeHighestFirst();
         endKeepsTheFirstBytes();
+        whatIsCutOffIsNotRead();
+        fullTapes();
         Check.finish();
     }
 
@@ -48,5 +50,40 @@ final class TapeTest {
         house.zone(3);
         Check.is("+6 and 5", house.local(3, 0, 7), 65);
         Check.is("the tape is empty", house.count(4), 0);
+    }
+
+    private static void whatIsCutOffIsNotRead() {
+        JobHouse house = new JobHouse();
+        // "+6055": what lies behind the tape's end must not be read.
+        house.feed(0x2b363035, 0x35000000, 0, 0, 0);
+        house.end(3);
+        house.zone(1);
+        Check.is("+60", house.local(1, 0, 7), 60);
+        Check.feed(house, "* * * ? * MON 20245");
+        house.end(12);
+        Check.failsVoid("MO", Check.BROKEN, () -> house.cron(0));
+        Check.is("place", house.count(5), 10);
+        Check.feed(house, "* * * ? * MON 20245");
+        house.end(18);
+        house.cron(0);
+        Check.is("2024", house.next(0, 0, -1, 0), Check.at("2024-01-01T00:00:00"));
+        Check.feed(house, "* * * * * ? 2024");
+        house.end(12);
+        Check.failsVoid("a year must stand there", Check.BROKEN, () -> house.cron(0));
+        Check.is("place", house.count(5), 12);
+    }
+
+    private static void fullTapes() {
+        String blanks = " ".repeat(389);
+        String[] texts = {"* * * * *" + blanks + " ?", "* * * * * ?" + blanks,
+            "0" + ",59".repeat(129) + "   * * * JAN", "0" + ",59".repeat(128) + " * * 1 * ?    1",
+            "0" + ",59".repeat(129) + " * * * * ?  "};
+        long[] due = {-1, 400, 400, 399, 400};
+        for (int i = 0; i < texts.length; i++) {
+            Check.is("length " + i, texts[i].length(), 400);
+            Check.is("text " + i, Check.cronPlace(new JobHouse(), texts[i]), due[i]);
+        }
+        Check.is("a zone", Check.zonePlace(new JobHouse(), "+60 60" + " ".repeat(381)
+                + "M3.5.0/120 M1"), 400);
     }
 }
