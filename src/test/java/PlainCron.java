@@ -7,7 +7,7 @@ import java.util.Set;
 import java.util.regex.Matcher;
 import java.util.regex.Pattern;
 
-/** Cron expressions in their plainest form: texts by a pattern, fires by trying second by second. */
+/** Cron expressions in their plainest form: texts by a pattern, fires by trying each second. */
 final class PlainCron {
     private static final List<String> MONTHS = List.of("JAN", "FEB", "MAR", "APR", "MAY", "JUN",
             "JUL", "AUG", "SEP", "OCT", "NOV", "DEC");
