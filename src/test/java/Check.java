@@ -15,15 +15,36 @@ final class Check {
 
     private static int seen = 0;
     private static int wrong = 0;
+    /** The sentence of the document that is tested now, as it is told in front of a wrong answer. */
+    private static String sentence = "";
 
     private Check() {
+    }
+
+    /** One sentence of the document, in its own words, with the test of its own that it has. */
+    static void sentence(String words, Runnable test) {
+        int before = seen;
+        sentence = "[" + words + "] ";
+        try {
+            test.run();
+        } catch (RuntimeException e) {
+            tellWrong("a call", "threw " + e + " in " + e.getStackTrace()[0], "an answer");
+        }
+        if (seen == before) {
+            tellWrong("the test", "looked at nothing", "an answer");
+        }
+        sentence = "";
+    }
+
+    private static void tellWrong(String what, String got, String due) {
+        wrong++;
+        System.out.println(sentence + what + ": " + got + ", due is " + due);
     }
 
     static void is(String what, long got, long due) {
         seen++;
         if (got != due) {
-            wrong++;
-            System.out.println(what + ": answered " + got + ", due is " + due);
+            tellWrong(what, "answered " + got, "" + due);
         }
     }
 
@@ -38,8 +59,7 @@ final class Check {
             }
             got = "threw " + e.getClass().getName();
         }
-        wrong++;
-        System.out.println(what + ": " + got + ", due is " + due.getName());
+        tellWrong(what, got, due.getName());
     }
 
     static void failsVoid(String what, Class<? extends RuntimeException> due, Runnable call) {
@@ -106,6 +126,23 @@ final class Check {
     /** A time told like 2024-03-31T01:00:00 (universal time). */
     static long at(String text) {
         return LocalDateTime.parse(text).toEpochSecond(ZoneOffset.UTC) * 1000;
+    }
+
+    /** The fires of a cron (universal time) behind a time, one after the other; "none": no more. */
+    static void fires(String text, String from, String... due) {
+        JobHouse house = new JobHouse();
+        cron(house, 9, text);
+        long before = at(from);
+        long latest = house.last(9, 0, -1, before);
+        for (String fire : due) {
+            long wanted = fire.equals("none") ? -1 : at(fire);
+            is(text + " behind " + before, house.next(9, 0, -1, before), wanted);
+            long then = wanted < 0 ? END_OF_TIME : wanted;
+            is(text + " up to " + then, house.last(9, 0, -1, then), wanted < 0 ? latest : wanted);
+            is(text + " before " + then, house.last(9, 0, -1, then - 1), latest);
+            before = then;
+            latest = wanted < 0 ? latest : wanted;
+        }
     }
 
     static int day(String text) {
