@@ -70,6 +70,11 @@ final class CronDayEdgesTest {
             fire = house.next(0, 0, -1, fire);
             Check.is("" + year, fire, Check.at(year + "-01-01T00:00:00"));
         }
+        // From the middle of another year.
+        Check.fires("0 0 0 1 1 ? 2024", "2022-06-15T00:00:00", "2024-01-01T00:00:00", "none");
+        Check.cron(house, 1, "0 0 0 31 12 ? 2024");
+        Check.is("backwards", house.last(1, 0, -1, Check.at("2026-06-15T00:00:00")),
+                Check.at("2024-12-31T00:00:00"));
         members(6, "1970", 1970);
         members(6, "2299", 2299);
         members(6, "1970,2299", 1970, 2299);

@@ -1,6 +1,7 @@
 /** FIRES, promises 6, 7 and 8: each sentence that names a boundary has a test of its own. */
 final class FireEdgesTest {
     private static final long DAY = 86400000L;
+    private static final long END = Check.END_OF_TIME;
 
     public static void main(String[] args) {
         Check.sentence("TIME is told in milliseconds since the beginning of 1970 (universal time),"
@@ -22,8 +23,14 @@ final class FireEdgesTest {
         Check.sentence("more than 200: IndexOutOfBoundsException", FireEdgesTest::full);
         Check.sentence("k 0 .. 15, z 0 .. 7, c -1 .. 3, t a TIME (so for all)",
                 FireEdgesTest::rangesOfSearch);
-        Check.sentence("The first of the FIRES behind t", FireEdgesTest::behindT);
-        Check.sentence("The last of the FIRES not behind t", FireEdgesTest::notBehindT);
+        Check.sentence("The first of the FIRES behind t", () -> {
+            behindT();
+            overADay(true);
+        });
+        Check.sentence("The last of the FIRES not behind t", () -> {
+            notBehindT();
+            overADay(false);
+        });
         Check.sentence("-1 without", FireEdgesTest::without);
         Check.sentence("LOCAL time is universal time and OFFSET, and in SUMMER SAVE besides.",
                 FireEdgesTest::leftOutAndAgain);
@@ -148,6 +155,14 @@ final class FireEdgesTest {
         Check.cron(east, 0, "59 59 13 1 1 ? 1970");
         Check.is("a second earlier is none", east.last(0, 0, -1, Check.END_OF_TIME), -1);
         Check.is("nor is it the next", east.next(0, 0, -1, 0), -1);
+        // The first second of 1970, behind a change of time and before one.
+        String[] zones = {"-840", "-840 60 M6.1.0/0 M1.1.4/0", "-840 60 M3.5.0/120 M10.5.0/180"};
+        for (String zone : zones) {
+            JobHouse first = with("0 0 0 1 1 ? 1970", zone);
+            Check.is("the first in " + zone, first.next(0, 0, -1, 0), 840 * 60000L);
+            Check.is("and the last", first.last(0, 0, -1, Check.END_OF_TIME), 840 * 60000L);
+            Check.is("none before it", first.last(0, 0, -1, 840 * 60000L - 1), -1);
+        }
         JobHouse summer = with("0 30 15 31 12 ? 2299", "-540 60 M6.1.0/0 M1.1.0/0");
         Check.is("in summer, too", summer.next(0, 0, -1, 0), Check.END_OF_TIME + 1 - 1800000);
         Check.cron(summer, 0, "0 0 16 31 12 ? 2299");
@@ -272,6 +287,38 @@ final class FireEdgesTest {
         Check.is("0 itself", begin.last(0, 0, -1, 0), 0);
     }
 
+    /** Fires whose seconds, minutes and hours all turn over, at the ends of a day and within it. */
+    private static void overADay(boolean forwards) {
+        overADay(forwards, new int[] {0, 3, 14, 23}, new int[] {0, 20, 59}, new int[] {0, 10, 59});
+        overADay(forwards, new int[] {1, 4, 5, 22}, new int[] {1, 2, 58}, new int[] {1, 30, 58});
+        overADay(forwards, new int[] {1, 4, 5, 22}, new int[] {1, 2, 59}, new int[] {1, 30, 59});
+    }
+
+    private static String told(int[] numbers) {
+        return java.util.Arrays.toString(numbers).replaceAll("[\\[\\] ]", "");
+    }
+
+    private static void overADay(boolean forwards, int[] hours, int[] minutes, int[] seconds) {
+        String cron = told(seconds) + " " + told(minutes) + " " + told(hours) + " 5-6 1 ? 1970";
+        JobHouse house = with(cron, "+0");
+        long before = -1;
+        for (int i = 0; i < 72; i++) {
+            int time = hours[i / 9 % 4] * 3600 + minutes[i / 3 % 3] * 60 + seconds[i % 3];
+            long fire = (4 + i / 36) * DAY + time * 1000L;
+            long hour = fire / 3600000 * 3600000;
+            long[] times = {before, (before + fire) / 2, hour - 2000, hour, fire - 1000, fire - 1};
+            for (long t : times) {
+                if (t >= Math.max(before, 0) && t < fire) {
+                    Check.is("at " + t, forwards ? house.next(0, 0, -1, t)
+                            : house.last(0, 0, -1, t), forwards ? fire : before);
+                }
+            }
+            before = fire;
+        }
+        Check.is("behind all of them", forwards ? house.next(0, 0, -1, before)
+                : house.last(0, 0, -1, END), forwards ? -1 : before);
+    }
+
     private static void without() {
         JobHouse house = with("0 0 0 31 2 ?", "+60 60 M3.5.0/120 M10.5.0/180");
         Check.is("a day that never is", house.next(0, 0, -1, 0), -1);
@@ -291,19 +338,47 @@ final class FireEdgesTest {
 
     /** The hour that is left out in spring, and the one that comes twice in autumn. */
     private static void leftOutAndAgain() {
-        JobHouse house = with("0 0,30 2 * * ?", "+60 60 M3.5.0/120 M10.5.0/180");
-        long spring = Check.at("2024-03-31T01:00:00");
+        leftOutAndAgain("+60 60 M3.5.0/120 M10.5.0/180", 60);
+        leftOutAndAgain("-300 60 M3.5.0/120 M10.5.0/180", -300);
+        leftOutAndAgain("+0 60 M3.5.0/120 M10.5.0/180", 0);
+    }
+
+    private static void leftOutAndAgain(String zone, int offset) {
+        JobHouse house = with("0 0,30 2 * * ?", zone);
+        long spring = Check.at("2024-03-31T02:00:00") - offset * 60000L;
         Check.is("the day before", house.last(0, 0, -1, spring), spring - DAY + 1800000);
         Check.is("the day behind", house.next(0, 0, -1, spring - DAY + 1800000),
                 spring + DAY - 3600000);
-        long autumn = Check.at("2024-10-27T01:00:00");
+        long autumn = Check.at("2024-10-27T02:00:00") - offset * 60000L;
         long[] due = {autumn - 3600000, autumn - 1800000, autumn, autumn + 1800000, autumn + DAY};
-        long fire = autumn - DAY / 2;
-        for (long next : due) {
-            Check.is("before it", house.last(0, 0, -1, next - 1),
-                    next == due[0] ? autumn - DAY - 1800000 : fire);
-            fire = house.next(0, 0, -1, fire);
-            Check.is("next", fire, next);
+        firesAre(house, autumn - DAY - 1800000, due);
+        // On that day alone: the search has nowhere else to go.
+        Check.cron(house, 0, "0 15 2 27 10 ? 2024");
+        firesAre(house, -1, new long[] {autumn - 2700000, autumn + 900000, -1});
+        Check.cron(house, 0, "59 59 2 27 10 ? 2024");
+        firesAre(house, -1, new long[] {autumn - 1000, autumn + 3599000, -1});
+        Check.cron(house, 0, "0 0 3 27 10 ? 2024");
+        firesAre(house, -1, new long[] {autumn + 3600000, -1});
+        Check.cron(house, 0, "0 0 3 31 3 ? 2024");
+        firesAre(house, -1, new long[] {spring, -1});
+        Check.cron(house, 0, "59 59 1 31 3 ? 2024");
+        firesAre(house, -1, new long[] {spring - 1000, -1});
+    }
+
+    /** The fires behind the first one, which is there (or -1: there is none). */
+    private static void firesAre(JobHouse house, long first, long[] due) {
+        long before = first;
+        for (long fire : due) {
+            long then = fire < 0 ? END : fire;
+            Check.is("next", house.next(0, 0, -1, Math.max(before, 0)), fire);
+            Check.is("just before it", house.last(0, 0, -1, then - 1), before);
+            Check.is("itself", house.last(0, 0, -1, then), fire < 0 ? before : fire);
+            if (before >= 0 && fire >= 0) {
+                long middle = (before + fire) / 2;
+                Check.is("from between", house.next(0, 0, -1, middle), fire);
+                Check.is("up to between", house.last(0, 0, -1, middle), before);
+            }
+            before = fire;
         }
     }
 }

@@ -293,11 +293,12 @@ final class MakeEdgesTest {
     }
 
     private static void wheneverSought() {
-        JobHouse house = daily();
+        JobHouse house = new JobHouse();
+        Check.cron(house, 9, "0 0 0 * * ?");
         Check.zone(house, 1, "+60");
-        house.makeCron(0, 1, 2, 0, 0, 0, 0);
+        house.makeCron(9, 1, 2, 0, 0, 0, 0);
         Check.is("sought when made", house.job(0, 1), DAY - 3600000);
-        Check.cron(house, 0, "0 0 6 * * ?");
+        Check.cron(house, 9, "0 0 6 * * ?");
         Check.zone(house, 1, "-60");
         house.holiday(2, 1, true);
         Check.is("it stays", house.job(0, 1), DAY - 3600000);
@@ -306,7 +307,7 @@ final class MakeEdgesTest {
         Check.is("sought when freed", house.job(0, 1), 2 * DAY + 7 * 3600000);
         house.holiday(2, 1, false);
         Check.is("it stays again", house.job(0, 1), 2 * DAY + 7 * 3600000);
-        Check.cron(house, 0, "0 0 6 1 1 ? 1970");
+        Check.cron(house, 9, "0 0 6 1 1 ? 1970");
         house.advance(2 * DAY);
         Check.is("it goes when there is none any more", house.count(1), 0);
     }

@@ -127,6 +127,14 @@ final class TapeEdgesTest {
         house.end(0);
         Check.zone(house, 0, "-7");
         Check.is("none of them", house.local(0, 0, 7), -7);
+        Check.feed(house, "* * * ? * MON");
+        house.end(12);
+        Check.failsVoid("what is cut off is not read", Check.BROKEN, () -> house.cron(0));
+        Check.is("so the name is none", house.count(5), 10);
+        Check.feed(house, "* * * * * ?    2024");
+        house.end(13);
+        Check.failsVoid("nor are blanks and a year", Check.BROKEN, () -> house.cron(0));
+        Check.is("so the end is there", house.count(5), 13);
         Check.feed(house, "+8");
         house.end(2);
         Check.feed(house, "40");

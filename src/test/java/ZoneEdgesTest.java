@@ -310,20 +310,21 @@ final class ZoneEdgesTest {
         }
     }
 
+    /** Of texts that were told before nothing is left, however often another one is told. */
     private static void fromNowOn() {
         JobHouse house = new JobHouse();
-        Check.zone(house, 5, SUMMER);
+        String[] texts = {SUMMER, "-60", "+75", "+0 30 M6.1.0/0 M4.1.0/0", SUMMER, "+5", "+7 1"
+            + " M12.1.0/0 M4.1.0/0", "-840"};
+        int[] due = {120, -60, 75, 30, 120, 5, 7, -840};
         long july = Check.at("2024-07-01T00:00:00");
-        Check.is("told", house.local(5, july, 7), 120);
-        Check.is("at another time", house.local(5, 0, 7), 60);
-        Check.zone(house, 5, "-60");
-        Check.is("told anew", house.local(5, july, 7), -60);
-        Check.is("at another time", house.local(5, 0, 7), -60);
-        Check.zone(house, 5, "+0 30 M10.1.0/0 M4.1.0/0");
-        Check.is("and once more", house.local(5, july, 7), 0);
-        Check.is("in its summer", house.local(5, Check.at("2024-12-01T00:00:00"), 7), 30);
+        for (int i = 0; i < texts.length; i++) {
+            Check.zone(house, 5, texts[i]);
+            Check.is(texts[i], house.local(5, july, 7), due[i]);
+            Check.is("another one", house.local(6, july, 7), 0);
+        }
         Check.zone(house, 4, SUMMER);
-        Check.is("another one changes nothing", house.local(5, july, 7), 0);
+        Check.is("another one changes nothing", house.local(5, july, 7), -840);
+        Check.is("and is told, too", house.local(4, july, 7), 120);
     }
 
     private static void staysAsItWas() {
@@ -391,6 +392,23 @@ final class ZoneEdgesTest {
         }
     }
 
+    /** The first day of each month and the last one. */
+    private static void monthsOf(int year) {
+        JobHouse house = new JobHouse();
+        for (int month = 1; month <= 12; month++) {
+            java.time.LocalDate first = java.time.LocalDate.of(year, month, 1);
+            int[] days = {1, first.lengthOfMonth()};
+            for (int day : days) {
+                long t = first.withDayOfMonth(day).toEpochDay() * 86400000;
+                int weekday = first.withDayOfMonth(day).getDayOfWeek().getValue() % 7 + 1;
+                Check.is("year of " + t, house.local(0, t, 5), year);
+                Check.is("month of " + t, house.local(0, t, 4), month);
+                Check.is("day of " + t, house.local(0, t, 3), day);
+                Check.is("weekday of " + t, house.local(0, t, 6), weekday);
+            }
+        }
+    }
+
     private static void calendar() {
         date("1970-01-01", 5);
         date("1970-12-31", 5);
@@ -404,6 +422,9 @@ final class ZoneEdgesTest {
         date("2200-02-28", 6);
         date("2200-03-01", 7);
         date("2299-12-31", 1);
+        for (int year = 1970; year <= 2299; year++) {
+            monthsOf(year);
+        }
         JobHouse house = new JobHouse();
         Check.is("the end of TIME is that of 2299", house.local(0, Check.END_OF_TIME, 0)
                 + 100 * house.local(0, Check.END_OF_TIME, 1)
