@@ -92,6 +92,11 @@ final class AdvanceEdgesTest {
         once(again, 10, 1, 0);
         // The freed one is pending at once, and first by its priority.
         starts(again, 10, new long[] {0, 0, 0}, new long[] {10, 0, 10});
+        JobHouse spare = new JobHouse();
+        spare.make(1, 0, 10, 10, 5, 0, 0);
+        once(spare, 10, 1, 0);
+        // So it is where a worker is to spare for the other one.
+        starts(spare, 10, new long[] {0, 0, 0}, new long[] {10, 0, 10}, new long[] {10, 1, 10});
     }
 
     private static void whoGoes() {
@@ -218,6 +223,15 @@ final class AdvanceEdgesTest {
                 new long[] {2, 2, 0}, new long[] {2, 3, 1}, new long[] {2, 3, 2});
         Check.is("none runs", house.count(2), 0);
         Check.is("pending", house.job(3, 0), 1);
+        JobHouse spare = new JobHouse();
+        spare.workers(8);
+        spare.make(1, 0, 1, 0, 1, 0, 0);
+        once(spare, 1, 0, 0);
+        once(spare, 1, 5, 0);
+        spare.stall(2);
+        // With workers to spare it is freed before the next one starts, too.
+        starts(spare, 0, new long[] {2, 0, 0}, new long[] {2, 0, 1}, new long[] {2, 1, 1},
+                new long[] {2, 2, 1}, new long[] {2, 0, 2});
         JobHouse full = new JobHouse();
         full.workers(1);
         once(full, 0, 5, 1);

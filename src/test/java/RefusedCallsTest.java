@@ -63,7 +63,7 @@ final class RefusedCallsTest {
         }
         text.append(house.workers(4)).append(' ').append(answer(() -> readTape(house)));
         text.append(' ').append(house.count(5)).append(' ');
-        text.append(answer(() -> house.make(0, 1, 0, 0, 0, 0, 0))).append(' ');
+        text.append(answer(() -> numberAndOrder(house))).append(' ');
         for (int i = 0; i < 5; i++) {
             text.append(house.advance(20000000)).append(' ').append(house.count(1)).append(' ');
             text.append(answer(() -> house.start(0, 1))).append(' ');
@@ -75,6 +75,11 @@ final class RefusedCallsTest {
     private static long readTape(JobHouse house) {
         house.zone(6);
         return house.local(6, 0, 7);
+    }
+
+    private static long numberAndOrder(JobHouse house) {
+        int j = house.make(0, 1, 0, 0, 0, 0, 0);
+        return 1000 * house.job(j, 3) + j;
     }
 
     private static String answer(java.util.function.LongSupplier call) {
