@@ -15,7 +15,7 @@ final class Check {
 
     private static int seen = 0;
     private static int wrong = 0;
-    /** The sentence of the document that is tested now, as it is told in front of a wrong answer. */
+    /** The sentence that is tested now, as it is told in front of a wrong answer. */
     private static String sentence = "";
 
     private Check() {

@@ -1,6 +1,6 @@
 import java.lang.management.ManagementFactory;
 
-/** What a run makes is counted: the constructor makes all rows, and no call makes another object. */
+/** What a run makes is counted: the constructor makes all rows, no call makes another object. */
 final class RoomTest {
     private static final com.sun.management.ThreadMXBean BEAN =
             (com.sun.management.ThreadMXBean) ManagementFactory.getThreadMXBean();
