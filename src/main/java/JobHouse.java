@@ -889,6 +889,7 @@ public final class JobHouse {
     private static final class Fires {
         /** A zone has at most two changes in each of 330 years. */
         private static final int MOST_STRETCHES = 10000;
+        private static final int MOST_DATES = 31;
 
         private Cron cron = new Cron();
         private Zone zone = new Zone();
@@ -1004,11 +1005,11 @@ public final class JobHouse {
                         if (found >= 0) {
                             return found;
                         }
-                        date = 31;
+                        date = MOST_DATES;
                     }
                 }
                 month = 12;
-                date = 31;
+                date = MOST_DATES;
             }
             return NONE;
         }
@@ -1016,14 +1017,16 @@ public final class JobHouse {
         private int dateFrom(int year, int month, int low) {
             int first = Dates.firstOfMonth(year, month);
             long days = cron.daysOf(Dates.monthLength(year, month), Dates.weekdayOf(first));
-            for (int date = low; date <= 31; date++) {
-                date = Cron.lowestBit(days, date);
+            int from = low;
+            for (int i = 0; i < MOST_DATES; i++) {
+                int date = Cron.lowestBit(days, from);
                 if (date < 0) {
                     return NONE;
                 }
                 if (holidays.placeOf(first + date - 1) < 0) {
                     return first + date - 1;
                 }
+                from = date + 1;
             }
             return NONE;
         }
@@ -1031,14 +1034,16 @@ public final class JobHouse {
         private int dateUpTo(int year, int month, int high) {
             int first = Dates.firstOfMonth(year, month);
             long days = cron.daysOf(Dates.monthLength(year, month), Dates.weekdayOf(first));
-            for (int date = high; date >= 1; date--) {
-                date = Cron.highestBit(days, date);
+            int upTo = high;
+            for (int i = 0; i < MOST_DATES; i++) {
+                int date = Cron.highestBit(days, upTo);
                 if (date < 0) {
                     return NONE;
                 }
                 if (holidays.placeOf(first + date - 1) < 0) {
                     return first + date - 1;
                 }
+                upTo = date - 1;
             }
             return NONE;
         }
@@ -1153,11 +1158,15 @@ public final class JobHouse {
             text.requireBlanks();
             readItems(text, cron, Cron.HOUR);
             text.requireBlanks();
-            readDay(text, cron);
+            if (!takeDayRule(text, cron)) {
+                readItems(text, cron, Cron.DAY);
+            }
             text.requireBlanks();
             readItems(text, cron, Cron.MONTH);
             text.requireBlanks();
-            readWeekday(text, cron);
+            if (!takeWeekdayRule(text, cron)) {
+                readItems(text, cron, Cron.WEEKDAY);
+            }
             if (text.isDone()) {
                 addSome(cron, Cron.YEAR, FIRST_YEAR, LAST_YEAR, 1);
                 return;
@@ -1167,27 +1176,35 @@ public final class JobHouse {
             text.requireEnd();
         }
 
-        private static void readDay(Text text, Cron cron) {
+        /** Answers whether the day is told by a sign that stands first, and not by items. */
+        private static boolean takeDayRule(Text text, Cron cron) {
             if (text.take('?')) {
                 cron.dayRule = Cron.BY_WEEKDAYS;
-            } else if (!text.take('L')) {
-                readItems(text, cron, Cron.DAY);
-            } else if (text.take('W')) {
+                return true;
+            }
+            if (!text.take('L')) {
+                return false;
+            }
+            if (text.take('W')) {
                 cron.dayRule = Cron.LAST_WORKDAY;
             } else {
                 cron.dayRule = Cron.LAST_BUT;
                 cron.n = text.take('-') ? text.number(1, 30) : 0;
             }
+            return true;
         }
 
-        private static void readWeekday(Text text, Cron cron) {
+        /** Likewise the weekday, which has to be ? where the day is not. */
+        private static boolean takeWeekdayRule(Text text, Cron cron) {
             if (cron.dayRule != Cron.BY_WEEKDAYS) {
                 text.require('?');
-            } else if (text.take('L')) {
-                cron.add(Cron.WEEKDAY, 7);
-            } else {
-                readItems(text, cron, Cron.WEEKDAY);
+                return true;
             }
+            if (text.take('L')) {
+                cron.add(Cron.WEEKDAY, 7);
+                return true;
+            }
+            return false;
         }
 
         private static void readItems(Text text, Cron cron, int field) {
@@ -1256,7 +1273,7 @@ public final class JobHouse {
             int highest = Cron.highest(field);
             int size = highest - lowest + 1;
             int length = to < from ? to - from + size : to - from;
-            for (int i = 0; i <= length; i += step) {
+            for (int i = 0; i <= length; i += Math.max(step, 1)) {
                 int number = from + i;
                 cron.add(field, number > highest ? number - size : number);
             }
