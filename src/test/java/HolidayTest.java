@@ -12,6 +12,7 @@ final class HolidayTest {
         ranges(house);
         full();
         keepsThemAll();
+        wholeMonths();
         Check.finish();
     }
 
@@ -58,6 +59,28 @@ final class HolidayTest {
                 due++;
             }
             Check.is("from " + from, house.next(0, 0, 2, from * 86400000L), due * 86400000L);
+        }
+    }
+
+    /** Of March 1970 all days but one are holidays, and then that one, too. */
+    private static void wholeMonths() {
+        int first = Check.day("1970-03-01");
+        for (int left = 0; left < 31; left += 10) {
+            JobHouse house = new JobHouse();
+            Check.cron(house, 0, "0 0 0 * 3 ?");
+            for (int i = 0; i < 31; i++) {
+                if (i != left) {
+                    house.holiday(0, first + i, true);
+                }
+            }
+            long due = (first + left) * 86400000L;
+            Check.is("day " + left + " is left", house.next(0, 0, 0, 0), due);
+            Check.is("day " + left + " is left, from behind",
+                    house.last(0, 0, 0, Check.at("1970-12-01T00:00:00")), due);
+            house.holiday(0, first + left, true);
+            Check.is("none is left", house.next(0, 0, 0, 0), Check.at("1971-03-01T00:00:00"));
+            Check.is("none is left, from behind",
+                    house.last(0, 0, 0, Check.at("1970-12-01T00:00:00")), -1);
         }
     }
 }

@@ -66,20 +66,8 @@ final class PlainCron {
         for (String name : WEEKDAYS) {
             bytes = bytes.replace(name, WEEKDAY_NAME);
         }
-        int place = bytes.length() + 1;
-        if (!FORM.matcher(bytes).matches()) {
-            place = bytes.length();
-            while (!canGoOn(bytes.substring(0, place))) {
-                place--;
-            }
-        }
-        place = Math.min(place, firstNumberOutOfRange(bytes));
-        return place > bytes.length() ? -1 : place;
-    }
-
-    private static boolean canGoOn(String part) {
-        Matcher matcher = FORM.matcher(part);
-        return matcher.matches() || matcher.hitEnd();
+        int place = Math.min(PlainText.placeOf(bytes, FORM), firstNumberOutOfRange(bytes));
+        return place == PlainText.NOWHERE ? -1 : place;
     }
 
     private static int firstNumberOutOfRange(String bytes) {
@@ -107,14 +95,11 @@ final class PlainCron {
                 low = Math.max(low, new java.math.BigDecimal(first).min(
                         java.math.BigDecimal.valueOf(9999)).intValue());
             }
-            java.math.BigInteger number = new java.math.BigInteger(
-                    matcher.group().startsWith("0") ? "0" : matcher.group());
-            if (number.compareTo(java.math.BigInteger.valueOf(low)) < 0
-                    || number.compareTo(java.math.BigInteger.valueOf(high)) > 0) {
+            if (!PlainText.isWithin(matcher.group(), low, high)) {
                 return begin;
             }
         }
-        return Integer.MAX_VALUE;
+        return PlainText.NOWHERE;
     }
 
     private void addField(int field, String text) {

@@ -1,3 +1,6 @@
+import java.nio.ByteBuffer;
+import java.time.LocalDateTime;
+import java.time.ZoneOffset;
 import java.util.ArrayList;
 import java.util.Comparator;
 import java.util.HashMap;
@@ -6,12 +9,15 @@ import java.util.List;
 import java.util.Map;
 import java.util.NoSuchElementException;
 import java.util.Optional;
+import java.util.Random;
 import java.util.Set;
+import java.util.function.ToIntFunction;
 
-/** The jobs of the document in their plainest form, to compare random runs with. */
+/** The document in its plainest form, to compare random runs with. */
 final class PlainHouse {
     private static final long SPAN = 1L << 40;
     private static final Map<String, PlainCron> CRONS = new HashMap<>();
+    private static final Map<String, PlainZone> ZONES = new HashMap<>();
 
     private static final class Task {
         int number;
@@ -38,6 +44,8 @@ final class PlainHouse {
     private final PlainZone[] zones = new PlainZone[8];
     private final List<Set<Integer>> calendars = new ArrayList<>();
     private final List<long[]> starts = new ArrayList<>();
+    private final StringBuilder tape = new StringBuilder();
+    private long place = -1;
     private long clock;
     private long made;
     private long started;
@@ -53,20 +61,85 @@ final class PlainHouse {
         }
     }
 
-    void zone(int z, String text) {
-        zones[z] = new PlainZone(text);
-    }
-
-    void cron(int k, String text) {
-        crons[k] = CRONS.computeIfAbsent(text, PlainCron::new);
-    }
-
-    void holiday(int c, int day, boolean yes) {
-        if (yes) {
-            calendars.get(c).add(day);
-        } else {
-            calendars.get(c).remove(day);
+    long feed(int... words) {
+        if (tape.length() + 20 > 400) {
+            throw new IndexOutOfBoundsException();
         }
+        for (int word : words) {
+            for (byte b : ByteBuffer.allocate(4).putInt(word).array()) {
+                tape.append((char) (b & 255));
+            }
+        }
+        return tape.length();
+    }
+
+    long end(int n) {
+        need(n >= 0 && n <= tape.length());
+        tape.setLength(n);
+        return n;
+    }
+
+    /** The text of the tape, if it is not broken at the place. */
+    private String taken(ToIntFunction<String> broken) {
+        String text = tape.toString();
+        tape.setLength(0);
+        place = broken.applyAsInt(text);
+        if (place >= 0) {
+            throw new UnsupportedOperationException();
+        }
+        return text;
+    }
+
+    long zone(int z) {
+        need(z >= 0 && z <= 7);
+        zones[z] = ZONES.computeIfAbsent(taken(PlainZone::placeOf), PlainZone::new);
+        return 0;
+    }
+
+    long cron(int k) {
+        need(k >= 0 && k <= 15);
+        crons[k] = CRONS.computeIfAbsent(taken(PlainCron::placeOf), PlainCron::new);
+        return 0;
+    }
+
+    long holiday(int c, int day, boolean yes) {
+        need(c >= 0 && c <= 3 && day >= 0 && day <= 120529);
+        Set<Integer> days = calendars.get(c);
+        if (!yes) {
+            days.remove(day);
+        } else if (days.size() < 200) {
+            days.add(day);
+        } else if (!days.contains(day)) {
+            throw new IndexOutOfBoundsException();
+        }
+        return days.size();
+    }
+
+    long next(int k, int z, int c, long t) {
+        need(k >= 0 && k <= 15 && z >= 0 && z <= 7 && c >= -1 && c <= 3);
+        need(t >= 0 && t <= Check.END_OF_TIME);
+        return next(new int[] {k, z, c}, t);
+    }
+
+    long last(int k, int z, int c, long t) {
+        need(k >= 0 && k <= 15 && z >= 0 && z <= 7 && c >= -1 && c <= 3);
+        need(t >= 0 && t <= Check.END_OF_TIME);
+        return last(new int[] {k, z, c}, t);
+    }
+
+    long local(int z, long t, int what) {
+        need(z >= 0 && z <= 7 && t >= 0 && t <= Check.END_OF_TIME && what >= 0 && what <= 7);
+        int minutes = zones[z].minutesAt(t);
+        LocalDateTime time = LocalDateTime.ofEpochSecond(t / 1000 + minutes * 60L, 0,
+                ZoneOffset.UTC);
+        return new long[] {time.getSecond(), time.getMinute(), time.getHour(),
+            time.getDayOfMonth(), time.getMonthValue(), time.getYear(),
+            time.getDayOfWeek().getValue() % 7 + 1, minutes}[what];
+    }
+
+    /** A time of which a search is delicate in that zone. */
+    long interestingTime(int z, Random random) {
+        return random.nextInt(3) == 0 ? clock : zones[z].interestingTime(random);
     }
 
     private long next(int[] by, long t) {
@@ -275,7 +348,7 @@ final class PlainHouse {
     }
 
     long count(int what) {
-        need(what >= 0 && what <= 3);
-        return new long[] {clock, tasks.size(), running(), started}[what];
+        need(what >= 0 && what <= 5);
+        return new long[] {clock, tasks.size(), running(), started, tape.length(), place}[what];
     }
 }

@@ -4,9 +4,15 @@ import java.time.temporal.TemporalAdjusters;
 import java.util.Map;
 import java.util.Random;
 import java.util.TreeMap;
+import java.util.regex.Matcher;
+import java.util.regex.Pattern;
 
 /** A zone in its plainest form: every change of all years, in a map. */
 final class PlainZone {
+    private static final Pattern FORM = Pattern.compile(form());
+    private static final int[] LOW = {0, 1, 1, 1, 0, 0, 1, 1, 0, 0};
+    private static final int[] HIGH = {840, 120, 12, 5, 6, 1439, 12, 5, 6, 1439};
+
     final int base;
     final int save;
     /** From the second of a change on: summer or not. */
@@ -26,6 +32,25 @@ final class PlainZone {
             // Put later than the beginnings, so that an end at the same time wins.
             changes.put(second(parts[3], year) - (base + save) * 60L, false);
         }
+    }
+
+    private static String form() {
+        String n = "[1-9][0-9]*";
+        String zero = "(?:0|" + n + ")";
+        String rule = "M" + n + "\\." + n + "\\." + zero + "/" + zero;
+        return "[+-]" + zero + "(?: +" + n + " +" + rule + " +" + rule + ")?";
+    }
+
+    /** Where the text is broken, -1 if it is not. */
+    static int placeOf(String text) {
+        int place = PlainText.placeOf(text, FORM);
+        Matcher matcher = Pattern.compile("[0-9]+").matcher(text);
+        for (int i = 0; i < LOW.length && matcher.find(); i++) {
+            if (!PlainText.isWithin(matcher.group(), LOW[i], HIGH[i])) {
+                place = Math.min(place, matcher.start());
+            }
+        }
+        return place == PlainText.NOWHERE ? -1 : place;
     }
 
     private static long second(String rule, int year) {

@@ -88,7 +88,7 @@ final class RandomCron {
         int changes = 1 + random.nextInt(3);
         for (int i = 0; i < changes; i++) {
             int place = random.nextInt(bytes.length() + 1);
-            String signs = "0123456789  ,-/*?LW#JANSUN\0x";
+            String signs = "0123456789  ,-/*?LW#JANSUNM.+\0x";
             char sign = signs.charAt(random.nextInt(signs.length()));
             int kind = random.nextInt(4);
             if (kind == 0) {

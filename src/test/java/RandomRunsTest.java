@@ -1,11 +1,15 @@
+import java.nio.ByteBuffer;
+import java.nio.charset.StandardCharsets;
+import java.util.Arrays;
 import java.util.Random;
 import java.util.function.LongSupplier;
 
 /** Random runs of calls on a JobHouse and on the plainest form of it: all answers agree. */
 final class RandomRunsTest {
-    private static final String[] CRONS = {"* * * * * ?", "*/7 * * * * ?", "0 */5 * * * ?",
-        "0 30 2 * * ?", "0 0 0 L * ?", "30 0,30 1-3 ? * SUN,MON", "0 0 12 1W * ?", "0 0 0 ? * 2#1",
-        "0 0 3 * * ? 1970-1975", "5/10 59 23 * * ?"};
+    private static final int GOOD_CRONS = 10;
+    private static final String[] CRONS = withSpoilt("* * * * * ?", "*/7 * * * * ?",
+            "0 */5 * * * ?", "0 30 2 * * ?", "0 0 0 L * ?", "30 0,30 1-3 ? * SUN,MON",
+            "0 0 12 1W * ?", "0 0 0 ? * 2#1", "0 0 3 * * ? 1970-1975", "5/10 59 23 * * ?");
     private static final String[] ZONES = {"+0", "+60 60 M3.5.0/120 M10.5.0/180", "-300",
         "-300 60 M3.2.0/120 M11.1.0/120", "+840", "+630 30 M10.1.0/120 M4.1.0/120"};
     /** What later calls answer is free. */
@@ -26,11 +30,21 @@ final class RandomRunsTest {
     }
 
     public static void main(String[] args) {
-        int runs = args.length > 0 ? Integer.parseInt(args[0]) : 1500;
+        int runs = args.length > 0 ? Integer.parseInt(args[0]) : 800;
         for (int seed = 0; seed < runs; seed++) {
             new RandomRunsTest(seed).run();
         }
         Check.finish();
+    }
+
+    /** The good texts first; of spoilt ones not too many, as some are good and slow to look at. */
+    private static String[] withSpoilt(String... good) {
+        String[] texts = Arrays.copyOf(good, 20 * GOOD_CRONS);
+        Random random = new Random(1);
+        for (int i = GOOD_CRONS; i < texts.length; i++) {
+            texts[i] = RandomCron.spoilt(random, good[i % GOOD_CRONS]);
+        }
+        return texts;
     }
 
     private void run() {
@@ -39,7 +53,7 @@ final class RandomRunsTest {
             step();
             lookAtSome();
         }
-        while (calls < MOST_CALLS) {
+        while (calls < MOST_CALLS - 3) {
             lookAtOne();
         }
     }
@@ -138,29 +152,53 @@ final class RandomRunsTest {
     }
 
     private void tellSomething() {
-        int kind = random.nextInt(3);
-        if (kind == 0) {
-            int k = random.nextInt(4);
-            String text = CRONS[random.nextInt(CRONS.length)];
-            told.append("; cron ").append(k).append(' ').append(text);
-            Check.cron(house, k, text);
-            calls += 5;
-            plain.cron(k, text);
-        } else if (kind == 1) {
-            int z = random.nextInt(4);
+        int kind = random.nextInt(9);
+        if (kind < 3) {
+            int k = random.nextInt(20) == 0 ? number(0, 15) : random.nextInt(4);
+            feed(CRONS[random.nextInt(random.nextInt(3) == 0 ? CRONS.length : GOOD_CRONS)]);
+            change("cron(" + k + ")", () -> {
+                house.cron(k);
+                return 0;
+            }, () -> plain.cron(k));
+        } else if (kind < 5) {
+            int z = random.nextInt(20) == 0 ? number(0, 7) : random.nextInt(4);
             String text = ZONES[random.nextInt(ZONES.length)];
-            told.append("; zone ").append(z).append(' ').append(text);
-            Check.zone(house, z, text);
-            calls += 5;
-            plain.zone(z, text);
-        } else {
-            int c = random.nextInt(4);
-            int day = random.nextInt(5);
+            feed(random.nextInt(4) == 0 ? RandomCron.spoilt(random, text) : text);
+            change("zone(" + z + ")", () -> {
+                house.zone(z);
+                return 0;
+            }, () -> plain.zone(z));
+        } else if (kind < 8) {
+            int c = number(0, 3);
+            int day = random.nextInt(12) == 0 ? number(0, 120529) : random.nextInt(5);
             boolean yes = random.nextBoolean();
-            told.append("; holiday ").append(c).append(' ').append(day).append(' ').append(yes);
-            house.holiday(c, day, yes);
+            change("holiday(" + c + ", " + day + ", " + yes + ")",
+                    () -> house.holiday(c, day, yes), () -> plain.holiday(c, day, yes));
+        } else {
+            int n = number(0, (int) house.count(4));
             calls++;
-            plain.holiday(c, day, yes);
+            change("end(" + n + ")", () -> house.end(n), () -> plain.end(n));
+        }
+    }
+
+    /** Mostly on an empty tape, and mostly without what fills up the last 20 bytes. */
+    private void feed(String text) {
+        if (random.nextInt(8) != 0) {
+            change("end(0)", () -> house.end(0), () -> plain.end(0));
+        }
+        byte[] bytes = text.getBytes(StandardCharsets.ISO_8859_1);
+        ByteBuffer rows = ByteBuffer.wrap(Arrays.copyOf(bytes, (bytes.length + 19) / 20 * 20));
+        int left = rows.remaining() - bytes.length;
+        while (rows.hasRemaining()) {
+            int[] words = {rows.getInt(), rows.getInt(), rows.getInt(), rows.getInt(),
+                rows.getInt()};
+            change("feed" + Arrays.toString(words), () -> house.feed(words[0], words[1], words[2],
+                    words[3], words[4]), () -> plain.feed(words));
+        }
+        if (random.nextInt(30) != 0) {
+            int n = (int) house.count(4) - left;
+            calls++;
+            change("end(" + n + ")", () -> house.end(n), () -> plain.end(n));
         }
     }
 
@@ -172,20 +210,35 @@ final class RandomRunsTest {
     }
 
     private void lookAtOne() {
-        int kind = random.nextInt(6);
-        if (kind == 0) {
-            int what = random.nextInt(4);
+        int kind = random.nextInt(8);
+        if (kind < 2) {
+            int what = number(0, 5);
             agree("count(" + what + ")", () -> house.count(what), () -> plain.count(what));
-        } else if (kind < 4) {
+        } else if (kind < 5) {
             int j = random.nextInt(4) == 0 ? number(0, 99) : random.nextInt(10);
             int what = number(0, 4);
             agree("job(" + j + ", " + what + ")", () -> house.job(j, what),
                     () -> plain.job(j, what));
-        } else {
+        } else if (kind < 7) {
             int i = random.nextInt(4) == 0 ? number(0, 499) : random.nextInt(20);
             int what = number(0, 2);
             agree("start(" + i + ", " + what + ")", () -> house.start(i, what),
                     () -> plain.start(i, what));
+        } else {
+            search();
         }
+    }
+
+    private void search() {
+        int k = random.nextInt(4);
+        int z = random.nextInt(4);
+        int c = number(-1, 3);
+        long t = random.nextInt(25) == 0 ? Check.END_OF_TIME + 1 : plain.interestingTime(z, random);
+        int what = number(0, 7);
+        String by = k + ", " + z + ", " + c + ", " + t + ")";
+        agree("next(" + by, () -> house.next(k, z, c, t), () -> plain.next(k, z, c, t));
+        agree("last(" + by, () -> house.last(k, z, c, t), () -> plain.last(k, z, c, t));
+        agree("local(" + z + ", " + t + ", " + what + ")", () -> house.local(z, t, what),
+                () -> plain.local(z, t, what));
     }
 }

@@ -1,3 +1,5 @@
+import java.util.Random;
+
 /** Promise 4: zone. */
 final class ZoneTest {
     public static void main(String[] args) {
@@ -5,6 +7,7 @@ final class ZoneTest {
         broken();
         ranges();
         brokenOnesChangeNothing();
+        randomTexts();
         Check.finish();
     }
 
@@ -76,5 +79,17 @@ final class ZoneTest {
         Check.is("as it was", house.local(2, Check.at("2024-01-20T00:00:00"), 7), 60);
         Check.zone(house, 2, "-300");
         Check.is("told anew", house.local(2, july, 7), -300);
+    }
+
+    private static void randomTexts() {
+        Random random = new Random(4);
+        for (int i = 0; i < 40000; i++) {
+            String text = PlainZone.randomText(random);
+            if (random.nextInt(5) != 0) {
+                text = RandomCron.spoilt(random, text);
+            }
+            Check.is("\"" + text + "\"", Check.zonePlace(new JobHouse(), text),
+                    PlainZone.placeOf(text));
+        }
     }
 }
