@@ -13,8 +13,6 @@ import java.util.regex.Pattern;
 final class CallDepthTest {
     private static final int MOST = 8;
     private static final Pattern CLASS = Pattern.compile("\\bclass (\\w+) \\{");
-    private static final Pattern METHOD = Pattern.compile(
-            "(?m)^ +(?!.*\\b(?:new|return|else|class)\\b)[\\w\\[\\] ]+ (\\w+)\\([^()]*\\)[^;{]*\\{");
     private static final Pattern CALL = Pattern.compile("(?:(\\w+)(?:\\[[^;]*?\\])?\\.)?(\\w+)\\(");
 
     /** The text of each method's body, by its class and name. */
@@ -65,7 +63,7 @@ final class CallDepthTest {
     }
 
     private static void readMethods(String name, String text) {
-        Matcher matcher = METHOD.matcher(text);
+        Matcher matcher = LanguageTest.METHOD.matcher(text);
         while (matcher.find()) {
             String body = LanguageTest.block(text, matcher.end() - 1);
             Check.is("one " + name + "." + matcher.group(1),
